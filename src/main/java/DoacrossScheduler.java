@@ -785,7 +785,7 @@ public final class DoacrossScheduler {
 
         /** The character where the reader stands, or 0, which no text holds, at the end. */
         private char current() {
-            return at >= 0 && at < size && at < MAX_CHARACTERS ? characters[at] : 0;
+            return at >= 0 && at < size && at < MAX_CHARACTERS ? characters[at] : (char) 0;
         }
 
         private int digit() {
@@ -928,8 +928,12 @@ public final class DoacrossScheduler {
                 other--;
             }
             trial.swap(turn, other);
-            for (int low = turn + 1, high = last; low < high; low++, high--) {
+            int low = turn + 1;
+            int high = last;
+            while (low < high) {
                 trial.swap(low, high);
+                low++;
+                high--;
             }
             return true;
         }

@@ -1,3 +1,9 @@
+import java.io.IOException;
+import java.nio.file.Files;
+import java.nio.file.Path;
+import java.util.Set;
+import java.util.TreeSet;
+
 /** Counts the answers that are not due, and packs texts for append. */
 final class Checks {
     /** A call of the face. */
@@ -5,8 +11,52 @@ final class Checks {
         long answer();
     }
 
+    private static final Path DOCUMENT = Path.of("../shared/DOC.md");
+
     private int made = 0;
     private int wrong = 0;
+    // The sentence whose checks are being made; none yet if it is empty.
+    private String sentence = "";
+    private int madeBefore = 0;
+    private final Set<Integer> promises = new TreeSet<>();
+    private final Set<String> sentences = new TreeSet<>();
+
+    /** The checks from here on are those of one sentence of the document, as the promise that is named answers it. */
+    void sentence(int promise, String quote) {
+        endSentence();
+        sentence = "promise " + promise + ", '" + quote + "': ";
+        promises.add(promise);
+        if (!sentences.add(sentence)) {
+            fault("has two tests");
+        }
+        if (!plain(document()).contains(plain(quote))) {
+            fault("does not stand in the document");
+        }
+    }
+
+    private void endSentence() {
+        if (!sentence.isEmpty() && made == madeBefore) {
+            fault("has no check");
+        }
+        madeBefore = made;
+    }
+
+    private void fault(String what) {
+        wrong++;
+        System.out.println(sentence + what);
+    }
+
+    private static String document() {
+        try {
+            return Files.readString(DOCUMENT);
+        } catch (IOException e) {
+            throw new IllegalStateException(DOCUMENT + " can't be read", e);
+        }
+    }
+
+    private static String plain(String text) {
+        return text.replaceAll("\\s+", " ");
+    }
 
     void due(String what, long got, long want) {
         due(what, Long.toString(got), Long.toString(want));
@@ -19,8 +69,7 @@ final class Checks {
     void due(String what, String got, String want) {
         made++;
         if (!got.equals(want)) {
-            wrong++;
-            System.out.println(what + " answered " + got + ", due is " + want);
+            fault(what + " answered " + got + ", due is " + want);
         }
     }
 
@@ -52,18 +101,33 @@ final class Checks {
         }
     }
 
+    static void run(DoacrossScheduler scheduler, String text) {
+        write(scheduler, text);
+        scheduler.execute();
+    }
+
     /** A new scheduler that has executed the texts, each in a buffer of its own. */
     static DoacrossScheduler made(String... texts) {
         DoacrossScheduler scheduler = new DoacrossScheduler();
         for (String text : texts) {
-            write(scheduler, text);
-            scheduler.execute();
+            run(scheduler, text);
         }
         return scheduler;
     }
 
+    /** Each of these promises must have had a sentence. */
+    void each(int first, int last) {
+        for (int promise = first; promise <= last; promise++) {
+            if (!promises.contains(promise)) {
+                fault("promise " + promise + " has no sentence");
+            }
+        }
+    }
+
     void end() {
-        System.out.println(made + " answers looked at, " + wrong + " not as due");
+        endSentence();
+        String told = sentences.isEmpty() ? "" : " on " + sentences.size() + " sentences";
+        System.out.println(made + " answers looked at" + told + ", " + wrong + " not as due");
         if (wrong != 0 || made == 0) {
             System.exit(1);
         }

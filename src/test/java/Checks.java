@@ -1,6 +1,9 @@
 import java.io.IOException;
+import java.lang.reflect.InvocationTargetException;
+import java.lang.reflect.Method;
 import java.nio.file.Files;
 import java.nio.file.Path;
+import java.util.Arrays;
 import java.util.Set;
 import java.util.TreeSet;
 
@@ -83,6 +86,18 @@ final class Checks {
             return Long.toString(call.answer());
         } catch (RuntimeException e) {
             return "throws." + e.getClass().getSimpleName();
+        }
+    }
+
+    /** What a method that takes only numbers answers, found by its name. */
+    static String answer(Object object, String name, int[] arguments) throws ReflectiveOperationException {
+        Class<?>[] types = new Class<?>[arguments.length];
+        Arrays.fill(types, int.class);
+        Method method = object.getClass().getDeclaredMethod(name, types);
+        try {
+            return String.valueOf(method.invoke(object, Arrays.stream(arguments).boxed().toArray()));
+        } catch (InvocationTargetException e) {
+            return "throws." + e.getCause().getClass().getSimpleName();
         }
     }
 

@@ -14,38 +14,8 @@ import java.util.regex.Pattern;
 
 /** The public face is the document's, no more and no less, and the source keeps to rules of LANGUAGE.md. */
 public final class FaceTest {
-    private static final String[] FACE = {
-        "int append(int) throws IllegalArgumentException, IllegalStateException",
-        "int execute() throws IllegalArgumentException",
-        "int errorPosition()",
-        "int setCost(int, int) throws IndexOutOfBoundsException, IllegalArgumentException",
-        "int set(int, int) throws IllegalArgumentException",
-        "int exchange(int) throws IndexOutOfBoundsException, IllegalStateException",
-        "int remove(int) throws IndexOutOfBoundsException",
-        "int statement(int, int) throws IndexOutOfBoundsException, IllegalArgumentException",
-        "int dependence(int, int) throws IndexOutOfBoundsException, IllegalArgumentException",
-        "int lead(int, int) throws IndexOutOfBoundsException, IllegalArgumentException, IllegalStateException",
-        "int eliminate(int) throws IllegalArgumentException",
-        "int keepAll()",
-        "boolean precedes(int, int) throws IndexOutOfBoundsException",
-        "int delay()",
-        "int critical()",
-        "int leastDelay() throws UnsupportedOperationException",
-        "int reorder() throws UnsupportedOperationException",
-        "int length()",
-        "int start(int, int) throws IndexOutOfBoundsException",
-        "int processor(int) throws IndexOutOfBoundsException",
-        "int total(int, int) throws IndexOutOfBoundsException, IllegalArgumentException",
-        "int fill()",
-        "int drain()",
-        "int speedUp(int) throws IllegalArgumentException, IllegalStateException",
-        "int bestProcessors()",
-        "int signals()",
-        "int violated()",
-        "int save()",
-        "int restore() throws IllegalStateException",
-        "int count(int) throws IllegalArgumentException",
-    };
+    /** The methods as the document shows them, each as its types, its name and its exceptions. */
+    private static final Set<String> FACE = new TreeSet<>();
     /** What LANGUAGE.md leaves out and a search of the source can find. */
     private static final String[] LEFT_OUT = {"\\bimport\\b", "\\bpackage\\b", "->", "::", "\\btry\\b", "\\bcatch\\b",
         "\\bfinally\\b", "\\bsynchronized\\b", "\\bassert\\b", "\\binstanceof\\b", "\\bstatic\\s*\\{", "Exact\\b",
@@ -54,11 +24,24 @@ public final class FaceTest {
     private static final Checks checks = new Checks();
 
     public static void main(String[] args) throws Exception {
+        readFace(Files.readString(Path.of("../shared/DOC.md")));
         methods();
         members();
         names();
         source(Files.readString(Path.of("src/main/java/DoacrossScheduler.java")));
         checks.end();
+    }
+
+    private static void readFace(String document) {
+        String shown = document.substring(document.indexOf("```java"), document.indexOf("## Description"));
+        Matcher method = Pattern.compile("public (\\w+ \\w+)\\((.*?)\\)(| throws [^;]+);").matcher(shown);
+        while (method.find()) {
+            String types = method.group(2).replaceAll(" \\w+(?=,|$)", "");
+            FACE.add(method.group(1) + "(" + types + ")" + method.group(3));
+        }
+        checks.due("the methods that the document shows", FACE.size(), 30);
+        checks.due("one of them", FACE.contains("int setCost(int, int) throws IndexOutOfBoundsException, "
+            + "IllegalArgumentException"), true);
     }
 
     private static String listed(Class<?>[] types) {
@@ -75,7 +58,7 @@ public final class FaceTest {
                 checks.due("the modifiers of " + method.getName(), method.getModifiers(), Modifier.PUBLIC);
             }
         }
-        checks.due("the methods", String.join("\n", found), String.join("\n", new TreeSet<>(Arrays.asList(FACE))));
+        checks.due("the methods", String.join("\n", found), String.join("\n", FACE));
     }
 
     private static void members() {

@@ -1,5 +1,3 @@
-import java.lang.reflect.InvocationTargetException;
-import java.lang.reflect.Method;
 import java.util.ArrayList;
 import java.util.Arrays;
 import java.util.List;
@@ -47,8 +45,8 @@ public final class ModelTest {
         for (int call = 0; call < CALLS; call++) {
             String name = nextName(call, model);
             int[] arguments = argumentsOf(name, model);
-            String want = answer(model, name, arguments);
-            String got = answer(scheduler, name, arguments);
+            String want = Checks.answer(model, name, arguments);
+            String got = Checks.answer(scheduler, name, arguments);
             told.add(name + Arrays.toString(arguments) + ": " + got);
             if (!got.equals(want)) {
                 told.forEach(System.out::println);
@@ -148,21 +146,6 @@ public final class ModelTest {
     private static int oddNumber() {
         int[] odd = {-1, Integer.MIN_VALUE, Integer.MAX_VALUE, 40, 16, 8, 7, 6, 5, 4, 3, 2, 14, 9, -8, 1 << 24};
         return odd[below(odd.length)];
-    }
-
-    private static String answer(Object object, String name, int[] arguments) throws Exception {
-        Class<?>[] types = new Class<?>[arguments.length];
-        Object[] values = new Object[arguments.length];
-        for (int i = 0; i < arguments.length; i++) {
-            types[i] = int.class;
-            values[i] = arguments[i];
-        }
-        Method method = object.getClass().getDeclaredMethod(name, types);
-        try {
-            return String.valueOf(method.invoke(object, values));
-        } catch (InvocationTargetException e) {
-            return "throws." + e.getCause().getClass().getSimpleName();
-        }
     }
 
     private static final class Dependence {

@@ -47,7 +47,6 @@ public final class PromisesTest {
         promise28Violated();
         promises29And30SaveAndRestore();
         promise31Count();
-        examples();
         checks.end();
     }
 
@@ -898,45 +897,5 @@ public final class PromisesTest {
         for (int wrong : new int[] {-1, 5, 9, 14, MIN, MIN + 5, MAX}) {
             checks.dueThrow("31: count(" + wrong + ")", ARGUMENT, () -> x.count(wrong));
         }
-    }
-
-    private static void examples() {
-        DoacrossScheduler a = new DoacrossScheduler();
-        checks.due("example 1: append", a.append(1932671859), 4);
-        checks.due("example 1: append", a.append(859530801), 8);
-        checks.due("example 1: append", a.append(1043348017), 12);
-        checks.due("example 1: append", a.append(989855744), 13);
-        checks.due("example 1: execute()", a.execute(), 3);
-        checks.due("example 1: delay()", a.delay(), 6);
-        checks.due("example 1: length()", a.length(), 59);
-        checks.due("example 1: start(0, 1)", a.start(0, 1), 6);
-        DoacrossScheduler b = new DoacrossScheduler();
-        int[] packed = {1932606323, 825976368, 1043413553, 996552766, 825897531};
-        for (int i = 0; i < packed.length; i++) {
-            checks.due("example 2: append", b.append(packed[i]), 4 * i + 4);
-        }
-        checks.due("example 2: execute()", b.execute(), 4);
-        checks.due("example 2: lead(1, 0)", b.lead(1, 0), -1);
-        checks.due("example 2: eliminate(0)", b.eliminate(0), 0);
-        checks.due("example 2: dependence(1, 5)", b.dependence(1, 5), 1);
-        DoacrossScheduler c = new DoacrossScheduler();
-        checks.due("example 3: append", c.append(1932802816), 3);
-        checks.due("example 3: execute()", c.execute(), 1);
-        checks.due("example 3: length()", c.length(), 20);
-        checks.due("example 3: speedUp(0)", c.speedUp(0), 2);
-        checks.due("example 3: bestProcessors()", c.bestProcessors(), 5);
-        DoacrossScheduler d = new DoacrossScheduler();
-        checks.due("example 4: append", d.append(1714437680), 4);
-        checks.due("example 4: append", d.append(976239360), 7);
-        checks.dueThrow("example 4: execute()", ARGUMENT, d::execute);
-        checks.due("example 4: errorPosition()", d.errorPosition(), 1);
-        DoacrossScheduler e = new DoacrossScheduler();
-        checks.due("example 5: append", e.append(1932606310), 4);
-        checks.due("example 5: append", e.append(809381946), 8);
-        checks.due("example 5: append", e.append(825950208), 10);
-        checks.due("example 5: execute()", e.execute(), 2);
-        checks.due("example 5: start(0, 1)", e.start(0, 1), 2);
-        checks.due("example 5: set(1, 0)", e.set(1, 0), 1);
-        checks.due("example 5: start(0, 1)", e.start(0, 1), 1);
     }
 }

@@ -420,6 +420,13 @@ public final class RunEdgesTest {
         checks.due("at the first position it does", y.fill(), 4);
         DoacrossScheduler z = with(4, 1, 2, BLOCKS, "s5;f0>0:1;");
         checks.due("the iteration 2 is the first of the second block", z.fill(), 12);
+        // The blocks are 01 2 34 5 67 8. 6 waits for 1, which stands behind 0 and starts at 1; 8 waits for 3, which
+        // waits for nothing: so the last processor is not the last one to start.
+        DoacrossScheduler w = with(9, 1, 6, BLOCKS, "s1;f0>0:5;");
+        checks.due("blocks of two and one", starts(w, 0), "0 1 0 0 1 2 3 4 2");
+        checks.due("the latest, not that of the last processor", w.fill(), 3);
+        DoacrossScheduler v = with(9, 5, 6, BLOCKS, "s9;f0>0:5;");
+        checks.due("the same with other costs", v.fill(), 23);
     }
 
     private static void fillOfThoseWithIterations() {
